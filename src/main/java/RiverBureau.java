@@ -1205,6 +1205,7 @@ public final class RiverBureau {
         private final int[] plan = new int[MOST_PLANNED];
         private int seasons;
         private int target;
+        private int mostInSeason;
 
         Planner(Chart chart) {
             this.chart = chart;
@@ -1219,6 +1220,7 @@ public final class RiverBureau {
             target = wantedArm;
             bestWorth = wantedArm == NONE ? -1 : 0;
             bestStamps = 0;
+            mostInSeason = mostServed();
             stages[0].copyFrom(from);
             search(this, 0, 0, 0);
         }
@@ -1252,13 +1254,25 @@ public final class RiverBureau {
             return depth == seasons - 1 && hasBit(harvested, target) ? 1 : 0;
         }
 
-        /** The most that seasons from a depth on can add: dead arms bring nothing any more. */
+        /** The most arms that any set of open ones serves at once; with a target, whether any serves that. */
+        private int mostServed() {
+            int most = 0;
+            for (int open = 0; open < chart.sets(); open++) {
+                int served = chart.servedOf(open);
+                int many = target == NONE ? Integer.bitCount(served) : served >> target & 1;
+                most = Math.max(most, many);
+            }
+            return most;
+        }
+
+        /** The most that seasons from a depth on can add: what can't win by it needs no looking at. */
         private int hopeOf(Flow flow, int depth) {
             int left = seasons - depth;
             if (target == NONE) {
-                return left * (chart.arms - Integer.bitCount(flow.dead));
+                int living = chart.arms - Integer.bitCount(flow.dead);
+                return left * Math.min(living, mostInSeason);
             }
-            return left > 0 ? 1 : 0;
+            return left > 0 && !hasBit(flow.dead, target) ? mostInSeason : 0;
         }
 
         private boolean canWin(int worth, int stamps) {
