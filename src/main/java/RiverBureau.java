@@ -17,8 +17,8 @@ public final class RiverBureau {
     private final Shelf rows = new Shelf(ROWS, ROW_ROOM);
     private final Shelf texts = new Shelf(TEXTS, TEXT_ROOM);
     private final Chart chart = new Chart();
-    private final Reader reader = new Reader(texts, chart);
-    private final Reader tester = new Reader(texts, new Chart());
+    private final Reader reader = new Reader(chart);
+    private final Reader tester = new Reader(new Chart());
     private final Story story = new Story();
     private final Kept[] kept = new Kept[KEEPS];
     private final Flow aside = new Flow();
@@ -117,7 +117,7 @@ public final class RiverBureau {
 
     public int fault(int t) {
         int refusal = shelfRefusal(texts, t);
-        return refusal != 0 ? refusal : tester.read(t);
+        return refusal != 0 ? refusal : tester.read(texts, t);
     }
 
     public int delta(int t) {
@@ -125,10 +125,10 @@ public final class RiverBureau {
         if (refusal != 0) {
             return refusal;
         }
-        if (tester.read(t) != NONE) {
+        if (tester.read(texts, t) != NONE) {
             return STATE;
         }
-        reader.read(t);
+        reader.read(texts, t);
         story.begin(chart);
         for (int k = 0; k < KEEPS; k++) {
             kept[k].there = false;
@@ -706,7 +706,7 @@ public final class RiverBureau {
 
         /** Subtracts, as the sum of two wanted numbers could wrap around. */
         boolean hasStretch(int r, int i, int n) {
-            return isThere(r) && i >= 0 && n >= 0 && n <= sizes[r] && i <= sizes[r] - n;
+            return knows(r) && i >= 0 && n >= 0 && i <= sizes[r] - n;
         }
 
         int sizeOf(int r) {
@@ -740,6 +740,15 @@ public final class RiverBureau {
             if (hasStretch(r, i, n) && hasStretch(to, j, n)) {
                 System.arraycopy(places[r], i, places[to], j, n);
             }
+        }
+
+        /** How many numbers came. */
+        int copyOut(int r, int[] to) {
+            int many = Math.min(to.length, Math.max(0, sizeOf(r)));
+            for (int i = 0; i < many; i++) {
+                to[i] = places[r][i];
+            }
+            return many;
         }
 
         long sumOf(int r) {
@@ -839,7 +848,10 @@ public final class RiverBureau {
             if (!hasBit(open, i)) {
                 return kind[i] == LEAKY ? 1 : 0;
             }
-            int widths = widthsOf(open);
+            int widths = 0;
+            for (int j = 0; j < arms; j++) {
+                widths += (open >> j & 1) * width[j];
+            }
             if (widths <= 0) {
                 return 0;
             }
@@ -849,14 +861,6 @@ public final class RiverBureau {
             }
             int openAhead = Integer.bitCount(open & (1 << i) - 1);
             return river * width[i] / widths + (openAhead < left ? 1 : 0);
-        }
-
-        private int widthsOf(int open) {
-            int widths = 0;
-            for (int j = 0; j < arms; j++) {
-                widths += hasBit(open, j) ? width[j] : 0;
-            }
-            return widths;
         }
 
         /** The arms that have no less water than they need. */
@@ -875,51 +879,53 @@ public final class RiverBureau {
 
     /** Reads a text onto a chart, up to its first fault. */
     private static final class Reader {
-        private final Shelf texts;
+        /** No byte, so it is no letter, no figure and no blank. */
+        private static final int END = 1000;
+
         private final Chart chart;
-        private int t;
+        private final int[] signs = new int[TEXT_ROOM];
+        private int size;
         private int place;
         private int waitsRead;
         private int fault;
 
-        Reader(Shelf texts, Chart chart) {
-            this.texts = texts;
+        Reader(Chart chart) {
             this.chart = chart;
         }
 
-        int read(int wantedText) {
-            t = wantedText;
+        int read(Shelf texts, int t) {
+            size = texts.copyOut(t, signs);
             place = 0;
             waitsRead = 0;
             fault = NONE;
             chart.clear();
             readRiver();
-            for (int items = 0; items <= TEXT_ROOM && fault == NONE; items++) {
+            for (int items = 0; items < TEXT_ROOM && fault == NONE; items++) {
                 skipBlanks();
-                if (atEnd()) {
+                if (place >= size) {
                     break;
                 }
                 readItem();
             }
             if (fault == NONE && chart.arms == 0) {
-                fault = texts.sizeOf(t);
+                fault = size;
             }
             return fault;
         }
 
-        private boolean atEnd() {
-            return place >= texts.sizeOf(t);
+        private int nextSign() {
+            return place < size && place < TEXT_ROOM ? signs[place] : END;
         }
 
         private void skipBlanks() {
-            while (!atEnd() && texts.valueAt(t, place) == BLANK) {
+            while (place < size && nextSign() == BLANK) {
                 place++;
             }
         }
 
         private void readRiver() {
             skipBlanks();
-            if (atEnd() || texts.valueAt(t, place) != RIVER_SIGN) {
+            if (nextSign() != RIVER_SIGN) {
                 fault = place;
                 return;
             }
@@ -928,12 +934,11 @@ public final class RiverBureau {
         }
 
         private void readItem() {
-            int sign = texts.valueAt(t, place);
-            if (sign == WAIT_SIGN) {
+            if (nextSign() == WAIT_SIGN) {
                 readWait();
                 return;
             }
-            int kind = Chart.kindOfLetter(sign);
+            int kind = Chart.kindOfLetter(nextSign());
             if (kind == NONE || chart.arms >= MOST_ARMS || waitsRead > 0) {
                 fault = place;
                 return;
@@ -977,8 +982,8 @@ public final class RiverBureau {
             if (fault != NONE) {
                 return 0;
             }
-            int figure = texts.valueAt(t, place) - NOUGHT_SIGN;
-            if (atEnd() || figure < low || figure > high) {
+            int figure = nextSign() - NOUGHT_SIGN;
+            if (figure < low || figure > high) {
                 fault = place;
                 return 0;
             }
