@@ -38,6 +38,7 @@ public final class ChancesTest {
         dueOdds("1 may not be as all are now, so it is not", x, 1, 0, 1);
         x.stamp(0);
         dueOdds("1 may be, if 0 is not shut ahead of it", x, 1, 1, 4);
+        dueOdds("32 by 32", Due.deltaOf("r3 a1010 a1010 a1010 a1010 a1010"), 4, 1, 1);
         RiverBureau y = Due.deltaOf("r3 m1110 a1110");
         y.leave(0);
         dueOdds("taken along, then shut by its own; or its own alone", y, 1, 1, 2);

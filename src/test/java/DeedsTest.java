@@ -5,6 +5,7 @@ public final class DeedsTest {
         marriedStamps();
         seasons();
         saltAndSilt();
+        siltOfOpenOnes();
         barges();
         undoing();
         undoingWithOtherNeeds();
@@ -95,6 +96,18 @@ public final class DeedsTest {
         Due.due("dead ones have none", x.season(), 1);
     }
 
+    private static void siltOfOpenOnes() {
+        RiverBureau x = Due.deltaOf("r1 a1010");
+        x.season();
+        x.season();
+        x.stamp(0);
+        x.season();
+        Due.dueArm("open for a season", x, 0, 5, 1);
+        x.season();
+        x.season();
+        Due.dueArm("no less than 0", x, 0, 5, 0);
+    }
+
     private static void barges() {
         RiverBureau x = Due.deltaOf("r1 b1310 a1010 m1010");
         Due.due("leave(3)", x.leave(3), RiverBureau.BAD);
@@ -124,7 +137,9 @@ public final class DeedsTest {
         Due.due("dead", x.count(3), 1);
         Due.due("undo(9)", x.undo(9), RiverBureau.BAD);
         Due.due("undo(-1)", x.undo(-1), RiverBureau.BAD);
+        digests[8] = x.digest();
         Due.due("undo none", x.undo(8), 0);
+        Due.due("all stays", x.digest(), digests[8]);
         Due.due("undo one", x.undo(7), 1);
         Due.due("as it was", x.digest(), digests[7]);
         Due.due("undo five", x.undo(2), 5);

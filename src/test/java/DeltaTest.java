@@ -86,11 +86,13 @@ public final class DeltaTest {
         Due.due("delta", x.delta(0), 2);
         x.leave(1);
         x.season();
+        x.keep(0);
         x.keep(1);
+        x.keep(2);
         Due.write(x, 1, "r4 a3410 b5610 w0");
         Due.due("delta with a fault", x.delta(1), RiverBureau.STATE);
         Due.due("it goes on", x.now(), 1);
-        Due.due("it is kept", x.count(8), 1);
+        Due.due("it is kept", x.count(8), 3);
         Due.due("delta anew", x.delta(0), 2);
         Due.due("anew: season", x.now(), 0);
         Due.due("anew: open arms", x.asked(), 2);
@@ -160,6 +162,13 @@ public final class DeltaTest {
         x.season();
         Due.due("silty, dead", x.mark(1, 2), 0);
         marksRefused(x);
+        RiverBureau z = Due.deltaOf("r1 t1310");
+        z.season();
+        z.stamp(0);
+        z.season();
+        Due.due("tidal, salt 1", z.mark(0, 1), 2);
+        z.season();
+        Due.due("tidal, salt 0", z.mark(0, 1), 3);
         RiverBureau y = Due.deltaOf("r1 m1010 m1010 m1010 s1010 m1010");
         Due.due("the one behind has its barge", y.mark(0, 5), RiverBureau.NONE);
         Due.due("the one behind has none", y.mark(2, 5), 3);
@@ -179,6 +188,11 @@ public final class DeltaTest {
         Due.due("mark(-1, 1)", x.mark(-1, 1), RiverBureau.BAD);
         Due.dueFinding("a tidal one is no silty one", x, x.mark(0, 2), UNLIKE);
         Due.dueFinding("a silty one is no leaky one", x, x.mark(1, 4), UNLIKE);
+        RiverBureau plain = Due.deltaOf("r1 a1010");
+        for (int kind = 1; kind <= 5; kind++) {
+            Due.dueFinding("a plain arm is no " + kind, plain, plain.mark(0, kind), UNLIKE);
+        }
+        Due.dueFinding("a barged one is no tidal one", x, x.mark(4, 1), UNLIKE);
         Due.dueFinding("a barged one is no married one", x, x.mark(4, 5), UNLIKE);
     }
 

@@ -85,6 +85,7 @@ public final class OfficesTest {
         RiverBureau x = Due.deltaOf("r1 b1110 b1110 b1110 a1110 b1110");
         Due.due("eels(0, 1)", x.eels(0, 1), 0);
         Due.due("eels(0, 2)", x.eels(0, 2), 1);
+        Due.due("eels(1, 2)", x.eels(1, 2), 0);
         Due.due("eels(2, 0)", x.eels(2, 0), 1);
         Due.due("eels(0, 4)", x.eels(0, 4), RiverBureau.NONE);
         Due.due("eels(2, 3)", x.eels(2, 3), RiverBureau.NONE);

@@ -43,6 +43,8 @@ public final class PlansTest {
         Due.dueFinding("size ahead of sets", x, x.run(0), SIZE);
         Due.fill(x, 0, 3, 4);
         Due.dueFinding("no such set", x, x.run(0), UNLIKE);
+        Due.fill(x, 0, 4, 3);
+        Due.dueFinding("no such set at first", x, x.run(0), UNLIKE);
         Due.fill(x, 0, 3, -1);
         Due.dueFinding("no set below 0", x, x.run(0), UNLIKE);
     }

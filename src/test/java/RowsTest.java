@@ -114,11 +114,14 @@ public final class RowsTest {
         Due.fill(x, 0, Integer.MAX_VALUE, Integer.MAX_VALUE, Integer.MAX_VALUE);
         x.mean(0);
         Due.due("mean of great ones", x.asked(), Integer.MAX_VALUE);
+        Due.fill(x, 0, 8);
+        x.mean(0);
+        Due.due("mean of one", x.asked(), 8);
         x.row(1, 0);
         Due.dueFinding("mean of none", x, x.mean(1), NOUGHT);
         Due.dueFinding("mean of a missing one", x, x.mean(2), NOTHING);
         Due.due("mean(6)", x.mean(6), RiverBureau.BAD);
-        Due.due("asked() stays", x.asked(), Integer.MAX_VALUE);
+        Due.due("asked() stays", x.asked(), 8);
     }
 
     private static void textsPut() {

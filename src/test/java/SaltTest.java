@@ -40,6 +40,10 @@ public final class SaltTest {
         Due.due("with 1, which is no stamp, and without", x.fits(0), 2);
         Due.due("the first", x.asked(), 1);
         Due.due("stamped by each", x.opened(0), 1);
+        RiverBureau y = Due.deltaOf("r1 a1010");
+        Due.fill(y, 0, 0);
+        Due.due("with it and without", y.fits(0), 2);
+        Due.due("not by each", y.opened(0), 0);
         Due.fill(x, 0, Integer.MAX_VALUE, -1);
         Due.due("no such salt", x.fits(0), 0);
     }
