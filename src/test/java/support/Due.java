@@ -2,15 +2,25 @@
 final class Due {
     private static int checked = 0;
     private static int wrong = 0;
+    private static String within = "";
 
     private Due() {
+    }
+
+    /** What is not as due is told along with the case's name from here on. */
+    static void enterCase(String name) {
+        within = name.isEmpty() ? "" : name + ": ";
+    }
+
+    static int checkedSoFar() {
+        return checked;
     }
 
     static void due(String call, long got, long want) {
         checked++;
         if (got != want) {
             wrong++;
-            System.out.println(call + " answered " + got + ", due is " + want);
+            System.out.println(within + call + " answered " + got + ", due is " + want);
         }
     }
 
