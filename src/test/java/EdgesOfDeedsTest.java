@@ -691,7 +691,7 @@ public final class EdgesOfDeedsTest extends Edges {
     }
 
     static void p23_on_brings_DEEDS_back_that_can_be_undone_one_by_one() {
-        RiverBureau x = Due.deltaOf("r1 b1310 s1010");
+        RiverBureau x = Due.deltaOf("r1 b1310 s1010 a1010");
         for (int d = 0; d < 7; d++) {
             if (d == 3) {
                 x.leave(0);
@@ -700,16 +700,29 @@ public final class EdgesOfDeedsTest extends Edges {
             }
         }
         x.keep(0);
-        x.undo(0);
-        x.season();
-        x.on(0);
-        x.keep(1);
         for (int d = 6; d >= 0; d--) {
-            x.on(1);
+            x.undo(0);
+            for (int other = 0; other < 9; other++) {
+                x.stamp(2);
+            }
+            x.on(0);
             Due.due("undo(" + d + ")", x.undo(d), 7 - d);
             Due.dueArm("silt of that time", x, 1, SILT, Math.min(9, 2 * (d > 3 ? d - 1 : d)));
+            dueOpen("open ones of that time", x, d > 3 ? 0 : 1);
             Due.due("barges of that time", x.count(4), d > 3 ? 0 : 1);
         }
+    }
+
+    static void p23_on_brings_60_DEEDS_back_that_can_be_undone_from_the_first() {
+        RiverBureau x = withDeeds(60);
+        x.keep(2);
+        x.undo(0);
+        passSeasons(x, 60);
+        Due.due("on(2)", x.on(2), 60);
+        Due.due("undo(59)", x.undo(59), 1);
+        dueAsked("59 stamps", x, x.now(), 0, 3);
+        Due.due("undo(0)", x.undo(0), 59);
+        dueAsked("none", x, x.now(), 0, 2);
     }
 
     static void p23_on_brings_NEEDS_back_but_leaves_WAITS() {

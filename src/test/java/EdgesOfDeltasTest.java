@@ -194,6 +194,47 @@ public final class EdgesOfDeltasTest extends Edges {
         Due.dueArm("none less", x, 0, SALT, 0);
     }
 
+    static void p12_SALT_of_each_ARM_from_9_to_0_leaves_the_others_at_9() {
+        for (int i = 0; i < 5; i++) {
+            RiverBureau x = Due.deltaOf("r1 b1910 b1910 b1910 b1910 b1910");
+            passSeasons(x, 9);
+            x.need(i, 0);
+            for (int s = 1; s <= 10; s++) {
+                x.season();
+                for (int j = 0; j < 5; j++) {
+                    Due.dueArm("arm " + i + " alone", x, j, SALT, i == j ? Math.max(0, 9 - s) : 9);
+                }
+            }
+        }
+    }
+
+    static void p12_SALT_of_each_ARM_from_0_to_9_leaves_the_others_at_0() {
+        for (int i = 0; i < 5; i++) {
+            RiverBureau x = Due.deltaOf("r1 b1010 b1010 b1010 b1010 b1010");
+            x.need(i, 9);
+            for (int s = 1; s <= 10; s++) {
+                x.season();
+                for (int j = 0; j < 5; j++) {
+                    Due.dueArm("arm " + i + " alone", x, j, SALT, i == j ? Math.min(9, s) : 0);
+                }
+            }
+        }
+    }
+
+    static void p12_SILT_of_each_ARM_from_8_to_0_leaves_the_others_at_9() {
+        for (int i = 0; i < 5; i++) {
+            RiverBureau x = Due.deltaOf("r1 a1010 a1010 a1010 a1010 a1010");
+            passSeasons(x, 8);
+            x.stamp(i);
+            for (int s = 1; s <= 9; s++) {
+                x.season();
+                for (int j = 0; j < 5; j++) {
+                    Due.dueArm("arm " + i + " alone", x, j, SILT, i == j ? Math.max(0, 8 - s) : 9);
+                }
+            }
+        }
+    }
+
     static void p12_SILT_is_9_at_most_and_stays_so() {
         RiverBureau x = Due.deltaOf("r1 a1010 s1010");
         passSeasons(x, 8);
@@ -217,6 +258,17 @@ public final class EdgesOfDeltasTest extends Edges {
         passSeasons(x, 60);
         for (int i = 0; i < 5; i++) {
             Due.dueArm("60 seasons", x, i, HARVESTS, 60);
+        }
+    }
+
+    static void p12_HARVESTS_of_each_ARM_leave_those_of_others_at_0() {
+        for (int i = 0; i < 5; i++) {
+            RiverBureau x = Due.deltaOf("r1 b1910 b1910 b1910 b1910 b1910");
+            x.need(i, 0);
+            passSeasons(x, 60);
+            for (int j = 0; j < 5; j++) {
+                Due.dueArm("arm " + i + " alone", x, j, HARVESTS, i == j ? 60 : 0);
+            }
         }
     }
 

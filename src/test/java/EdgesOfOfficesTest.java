@@ -109,6 +109,16 @@ public final class EdgesOfOfficesTest extends Edges {
         dueSettled(3, LEAST, -MOST, MOST, 1, MOST);
     }
 
+    static void p31_settle_again_is_not_led_by_the_debts_ahead() {
+        RiverBureau x = armsOf(5);
+        Due.fill(x, 0, 0, 0, 0, 0, 0);
+        Due.due("no debts", x.settle(0), 0);
+        Due.fill(x, 0, 1, 1, 1, 1, -4);
+        Due.due("debts then", x.settle(0), 4);
+        Due.fill(x, 0, 1, -1, 1, -1, 0);
+        Due.due("fewer then", x.settle(0), 2);
+    }
+
     static void p31_settle_only_tells() {
         RiverBureau x = busy();
         Due.fill(x, 4, 1, -1, 2, -2, 0);
@@ -245,6 +255,17 @@ public final class EdgesOfOfficesTest extends Edges {
         dueLoosened(" w01 w10 w43 w34", 1, 28);
         dueLoosened(" w34 w43", 28);
         dueLoosened(" w43 w30 w31 w32 w04 w14 w24", 35);
+    }
+
+    static void p33_loosen_again_is_not_led_by_the_WAITS_ahead() {
+        RiverBureau x = Due.deltaOf(FIVE + " w01 w10 w23 w32");
+        Due.due("two", x.loosen(0), 2);
+        x.awaits(1, 0, 0);
+        Due.due("one", x.loosen(0), 1);
+        Due.dueRow("one", x, 0, 19);
+        x.awaits(2, 3, 0);
+        Due.due("none", x.loosen(0), 0);
+        Due.dueRow("none", x, 0);
     }
 
     static void p33_loosen_only_tells() {

@@ -185,6 +185,16 @@ public final class EdgesOfPlansTest extends Edges {
         Due.dueRow("best", x, 0, 0, 0, 0);
     }
 
+    static void p25_best_without_any_HARVEST_behind_another_one_that_had_some() {
+        RiverBureau x = Due.deltaOf("r1 a1310 a1310");
+        dueAsked("best(3, 0)", x, x.best(3, 0), 3, 1);
+        Due.dueRow("best", x, 0, 1, 0, 0);
+        x.need(0, 9);
+        x.need(1, 9);
+        dueAsked("best(3, 0) then", x, x.best(3, 0), 0, 0);
+        Due.dueRow("best", x, 0, 0, 0, 0);
+    }
+
     static void p25_best_of_alike_HARVESTS_has_the_fewest_STAMPS() {
         RiverBureau x = Due.deltaOf("r2 a1310 a1310 m1310 a1310");
         x.leave(2);
@@ -303,6 +313,17 @@ public final class EdgesOfPlansTest extends Edges {
         Due.fill(x, 0, 4, 5);
         dueAside("fewest(0, 3, 0)", x, NONE, y -> y.fewest(0, 3, 0));
         dueAside("of a missing one", x, NONE, y -> y.fewest(0, 3, 4));
+    }
+
+    static void p26_fewest_behind_another_one_is_its_own() {
+        RiverBureau x = Due.deltaOf("r1 a1310 b1010 a1310");
+        x.leave(1);
+        Due.due("of 2", x.fewest(2, 1, 0), 1);
+        Due.dueRow("of 2", x, 0, 4);
+        Due.due("of 0", x.fewest(0, 1, 0), 1);
+        Due.dueRow("of 0", x, 0, 1);
+        Due.due("of 1, which needs 0", x.fewest(1, 1, 0), 0);
+        Due.dueRow("of 1", x, 0, 0);
     }
 
     static void p26_fewest_of_a_DEAD_one_is_NONE() {

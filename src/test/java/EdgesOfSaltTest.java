@@ -161,6 +161,15 @@ public final class EdgesOfSaltTest extends Edges {
         dueFits("each was stamped", x, 1, 31, 31);
     }
 
+    static void p30_opened_by_one_ARM_alone_whichever() {
+        for (int i = 0; i < 5; i++) {
+            RiverBureau x = Due.deltaOf("r1 a1310 a1310 a1310 a1310 a1310");
+            Due.fill(x, 0, 1, 1, 1, 1, 1);
+            x.lay(0, i, 0);
+            dueFits("arm " + i, x, 1, 1 << i, 1 << i);
+        }
+    }
+
     static void p30_opened_by_the_empty_set_is_0() {
         RiverBureau x = Due.deltaOf("r9 a1910");
         Due.fill(x, 0, 1);
