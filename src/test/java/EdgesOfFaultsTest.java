@@ -63,6 +63,19 @@ public final class EdgesOfFaultsTest extends Edges {
         dueFault(RIVER + ARM + " ".repeat(52) + "w", 60);
     }
 
+    static void p10_fault_of_a_shorter_TEXT_behind_a_longer_one_is_its_own_size() {
+        String whole = RIVER + ARM + ARM + "w01";
+        for (int n : new int[] {0, 1, 2, 3, 6, 8, 11, 13, 14}) {
+            RiverBureau x = new RiverBureau();
+            Due.write(x, 0, whole);
+            Due.write(x, 1, whole.substring(0, n));
+            Due.due("the longer one", x.fault(0), NONE);
+            Due.due("the first " + n, x.fault(1), n);
+            Due.due("the longer one again", x.fault(0), NONE);
+            dueRefused("delta by the first " + n, x, STATE, y -> y.delta(1));
+        }
+    }
+
     static void p10_TEXT_of_60_bytes_without_a_FAULT() {
         dueFault(FIVE + EIGHT_WAITS + " ".repeat(9), NONE);
         dueFault(" ".repeat(9) + FIVE + EIGHT_WAITS, NONE);
