@@ -62,6 +62,10 @@ public final class FaceTest {
         methods();
         fieldsAndConstructors();
         nestedClasses();
+        formOf(RiverBureau.class);
+        for (Class<?> c : RiverBureau.class.getDeclaredClasses()) {
+            formOf(c);
+        }
         words(Files.readString(Path.of("src/main/java/RiverBureau.java")));
         Due.end();
     }
@@ -120,6 +124,23 @@ public final class FaceTest {
         for (Class<?> c : inside) {
             Due.due(c + " is static", Modifier.isStatic(c.getModifiers()) ? 1 : 0, 1);
             Due.due(c + " is not shown", c.getModifiers() & (Modifier.PUBLIC | Modifier.PROTECTED), 0);
+        }
+    }
+
+    /** Rules 5 and 11: static fields are constants, few fields, few parameters. */
+    private static void formOf(Class<?> c) {
+        int fields = 0;
+        for (Field f : c.getDeclaredFields()) {
+            boolean fixed = Modifier.isFinal(f.getModifiers());
+            fields += Modifier.isStatic(f.getModifiers()) ? 0 : 1;
+            Due.due(f + " is static only as a constant", Modifier.isStatic(f.getModifiers()) && !fixed ? 1 : 0, 0);
+        }
+        Due.due(c + " has some twenty fields at most", fields <= 20 ? 1 : 0, 1);
+        for (Method m : c.getDeclaredMethods()) {
+            Due.due(m + " takes seven parameters at most", m.getParameterCount() <= 7 ? 1 : 0, 1);
+        }
+        for (Constructor<?> maker : c.getDeclaredConstructors()) {
+            Due.due(maker + " takes seven parameters at most", maker.getParameterCount() <= 7 ? 1 : 0, 1);
         }
     }
 
